@@ -281,6 +281,11 @@ public final class Orders {
         Due.is("12: paid to the overdraft", x.money(0, 0), -100);
         Due.is("12: the feeder's balance", x.money(1, 0), 1150);
         Due.is("12: no sweep got or gave else", x.money(1, 4) + x.money(0, 5) + x.money(2, 4), 0);
+        x.order(8, 1151, 101, 1, 5, 1);
+        x.deposit(0, 1150);
+        x.days(1);
+        Due.is("12: one cent is moved", x.money(0, 4), 851);
+        Due.is("12: and paid", x.money(0, 2), 2151);
         // Nothing waits, but the fee lies below the overdraft: also on a Saturday.
         StandingPayments y = new StandingPayments();
         y.account(100, 0);

@@ -2,6 +2,7 @@
 public final class UndoAndSaving {
     public static void main(String[] args) {
         promise29UndoesEachChange();
+        promise29MadeAnewIsNew();
         promise29KeepsSixStates();
         promise29LeavesPadAndSlots();
         promise30Save();
@@ -77,14 +78,9 @@ public final class UndoAndSaving {
         for (int which = 0; which <= 18; which++) {
             StandingPayments x = busy();
             x.save(0);
-            x.set(0, 4);
-            x.undo();
             int changes = x.count(10);
             if (which == 16) {
                 x.days(3);
-                x.undo();
-                x.days(1);
-                changes++;
             }
             String before = stateOf(x);
             int answer = change(x, which);
@@ -97,6 +93,67 @@ public final class UndoAndSaving {
             change(x, which);
             Due.is("29: done again " + which, stateOf(x).equals(behind) ? 1 : 0, 1);
         }
+    }
+
+    /** Accounts and orders whose making was undone leave nothing to those that are made in their place. */
+    private static void promise29MadeAnewIsNew() {
+        StandingPayments x = new StandingPayments();
+        x.account(1000000, 0);
+        x.account(1000000, 0);
+        x.account(100, 0);
+        x.save(0);
+        x.feed(0, 1);
+        x.feed(1, 2);
+        x.deposit(0, 7);
+        x.deposit(1, 2000000);
+        x.deposit(2, 1800100);
+        x.order(1, 1000000, 101, 0, 45, 9);
+        x.order(9, 700000, 101, 0, 5, 9);
+        x.order(26, 900000, 101, 0, 5, 0);
+        x.stop(2);
+        x.goOn(2);
+        x.days(30);
+        x.days(2);
+        Due.is("29: one is missed", x.ofOrder(2, 12) > 0 ? 1 : 0, 1);
+        Due.is("29: one waits", x.ofOrder(2, 14) > 0 ? 1 : 0, 1);
+        Due.is("29: one is skipped", x.ofOrder(0, 13), 2);
+        Due.is("29: interest was taken", x.money(2, 7) > 0 ? 1 : 0, 1);
+        x.stop(2);
+        String later = stateOf(x);
+        x.save(1);
+        x.restore(0);
+        x.order(8, 5, 101, 0, 5, 0);
+        x.order(17, 5, 101, 0, 5, 0);
+        x.order(26, 5, 101, 0, 5, 0);
+        for (int order = 0; order < 3; order++) {
+            Due.is("29: goes on", x.ofOrder(order, 10), 0);
+            for (int what = 11; what <= 15; what++) Due.is("29: new, " + what, x.ofOrder(order, what), 0);
+        }
+        x.days(1);
+        for (int order = 0; order < 3; order++) Due.is("29: paid", x.ofOrder(order, 11), 1);
+        x.restore(1);
+        Due.is("29: all of it is back", stateOf(x).equals(later) ? 1 : 0, 1);
+        Due.is("29: undone", x.undo(), 5);
+        Due.is("29: three new ones", x.count(5), 3);
+        StandingPayments y = new StandingPayments();
+        y.save(0);
+        for (int i = 0; i < 3; i++) y.account(1000000, 0);
+        y.feed(0, 1);
+        y.deposit(1, 1000);
+        y.order(2, 1000000, 101, 0, 5, 1);
+        y.order(8, 1000000, 101, 0, 5, 1);
+        y.order(18, 1000000, 101, 0, 5, 1);
+        y.days(31);
+        y.order(8, 5, 101, 33, 5, 0);
+        y.days(4);
+        y.restore(0);
+        for (int i = 0; i < 3; i++) {
+            y.account(0, 0);
+            for (int what = 0; what < 9; what++) Due.is("29: new account, " + what, y.money(i, what), 0);
+            Due.is("29: owes nothing", y.owedBits(i), 0);
+            Due.is("29: has no feeder", y.feed(i, -6), -6);
+        }
+        Due.is("29: no order", y.ofOrder(0, 0), -1);
     }
 
     private static void promise29KeepsSixStates() {

@@ -66,6 +66,9 @@ public final class WhatIf {
         Due.is("19: 20 holidays", x.count(3), 20);
         int[] february = {58, 59, 30, 30, 58};
         for (int rule = 0; rule <= 4; rule++) Due.is("19: rule " + rule, x.dateOf(rule, 1), february[rule]);
+        x.holiday(31, 0);
+        Due.is("19: the first of February is the only one", x.dateOf(0, 1), 31);
+        x.holiday(31, 1);
         x.days(32);
         // January by all; February on the 30 by the rules 2 and 3.
         int[] nexts = {58, 58, 88, 88, 58};
@@ -253,5 +256,10 @@ public final class WhatIf {
         Due.is("24: nothing changed", x.ofOrder(0, 11), 1);
         Due.is("24: the end of what is left", x.ahead(1, 400, 0), 3);
         Due.is("24: all others are missed", x.ahead(0, 400, 1) > 380 ? 1 : 0, 1);
+        x.days(10);
+        Due.is("24: missed by now", x.ofOrder(0, 12), 8);
+        // That of the 15 is missed on the 17, that of the 16 on the 18.
+        Due.is("24: missed in these days only", x.ahead(0, 1, 1), 1);
+        Due.is("24: and on the next", x.ahead(0, 2, 1), 2);
     }
 }
