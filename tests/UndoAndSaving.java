@@ -122,7 +122,8 @@ public final class UndoAndSaving {
         String later = stateOf(x);
         x.save(1);
         x.restore(0);
-        x.order(8, 5, 101, 0, 5, 0);
+        x.deposit(0, 5);
+        x.order(1, 5, 101, 0, 5, 0);
         x.order(17, 5, 101, 0, 5, 0);
         x.order(26, 5, 101, 0, 5, 0);
         for (int order = 0; order < 3; order++) {
