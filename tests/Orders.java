@@ -124,6 +124,12 @@ public final class Orders {
         Due.is("8: what waits keeps its amount", y.ofPayment(0, 1), 500);
         Due.is("8: the next has the new one", y.ofPayment(1, 1), 40);
         Due.is("8: together", y.money(0, 8), 540);
+        y.stop(0);
+        // Three tries failed, for 250 each.
+        y.deposit(0, 750 + 540);
+        y.days(1);
+        Due.is("8: each paid with its own", y.money(0, 2), 540);
+        Due.is("8: nothing is left", y.money(0, 0), 0);
     }
 
     private static void promise9Stop() {
@@ -206,11 +212,26 @@ public final class Orders {
         Due.is("11: due on the next day", x.ofPayment(1, 3), 1);
         Due.is("11: then its own", x.ofPayment(2, 0), 1);
         Due.is("11: no try failed by it", x.count(8), 4 + 2);
+        Due.is("11: no fee is taken for it", x.money(1, 0) + x.money(1, 6), 0);
+        Due.is("11: three tries of it failed", x.money(1, 6), 3 * 250);
         Due.is("11: the last", x.giveUp(2), 2);
         Due.is("11: nothing waits", x.money(1, 8), 0);
         Due.is("11: undone", x.undo(), 6 - 1);
         Due.is("11: it waits again", x.money(1, 8), 200);
         Due.is("11: three", x.count(4), 3);
+        // Of an order that is over, and of one that is stopped, too; the only one leaves none.
+        StandingPayments y = withAccounts(1);
+        y.order(8, 10, 101, 0, 5, 1);
+        y.order(8, 20, 101, 0, 5, 0);
+        y.days(1);
+        y.stop(1);
+        Due.is("11: over", y.ofOrder(0, 10), 2);
+        Due.is("11: of an order that is over", y.giveUp(0), 1);
+        Due.is("11: no such any more", y.giveUp(1), -1);
+        Due.is("11: of an order that is stopped", y.giveUp(0), 0);
+        Due.is("11: none is left", y.giveUp(0), -1);
+        Due.is("11: both missed", y.ofOrder(0, 12) * 10 + y.ofOrder(1, 12), 11);
+        Due.is("11: they stay over and stopped", y.ofOrder(0, 10) * 10 + y.ofOrder(1, 10), 21);
     }
 
     private static void promise12Days() {

@@ -5,7 +5,11 @@ public final class Texts {
         promise26Wipe();
         promise27Fault();
         promise27EverySignOfAnAct();
+        promise27NumbersAtEachPlace();
+        promise27EarlyEndsAtEachPlace();
         promise28CarryOut();
+        promise28AllKindsAndRules();
+        promise28OnTheLastDay();
         promise28ActsThatFail();
         promise28IsOneChange();
         Due.end();
@@ -39,6 +43,20 @@ public final class Texts {
         Due.is("25: up to 80", x.put(Due.packed("abcdef")), 80);
         Due.is("25: too many", x.put('a'), -4);
         Due.is("25: 80", x.count(9), 80);
+        // Each code, alone, as the last and as the first of eight.
+        for (long code = 1; code <= 255; code++) {
+            int due = code >= 33 && code <= 126 ? 0 : 1;
+            StandingPayments z = new StandingPayments();
+            Due.is("25: " + code + " alone", z.put(code), due == 0 ? 1 : -2);
+            Due.is("25: " + code + " as the last", z.put(Due.packed("aaaaaaa") << 8 | code), due == 0 ? 9 : -2);
+            Due.is("25: " + code + " as the first", z.put(code << 56 | Due.packed("aaaaaaa")), due == 0 ? 17 : -2);
+            Due.is("25: " + code + " above a 0", z.put(code << 16 | 'a'), -2);
+            Due.is("25: length behind " + code, z.count(9), due == 0 ? 17 : 0);
+        }
+        for (int signs = 1; signs <= 8; signs++) {
+            StandingPayments z = new StandingPayments();
+            Due.is("25: " + signs + " signs", z.put(Due.packed("abcdefgh".substring(0, signs))), signs);
+        }
         // The characters stand in the order in which they were given.
         StandingPayments y = new StandingPayments();
         y.put(Due.packed("n1"));
@@ -117,6 +135,83 @@ public final class Texts {
                 if (!stands) Due.is("27: fault of " + sign + " at " + at, fault, at);
             }
         }
+    }
+
+    /** "A number is 0 to 99999, without leading zeros", "also of a digit by which a number would be above 99999" */
+    private static void promise27NumbersAtEachPlace() {
+        String[][] places = {{"s", ""}, {"g", ""}, {"n", ""}, {"d3+", ""}, {"p0>1*", "d1."}, {"p0>-*1m", "x"},
+            {"p7>-*1e2/", "!"}, {"s1;g", ";n1"}};
+        for (String[] place : places) {
+            int at = place[0].length();
+            for (String number : new String[] {"0", "1", "9", "10", "99", "12345", "90000", "99999"}) {
+                Due.is("27: " + number + " behind " + place[0], faultOf(place[0] + number + place[1]), -6);
+            }
+            for (String number : new String[] {"100000", "000000", "999990", "999999", "123456", "100001"}) {
+                int digit = number.charAt(0) == '0' ? 1 : 5;
+                Due.is("27: " + number + " behind " + place[0], faultOf(place[0] + number + place[1]), at + digit);
+            }
+            for (String number : new String[] {"00", "01", "09", "012"}) {
+                Due.is("27: " + number + " behind " + place[0], faultOf(place[0] + number + place[1]), at + 1);
+            }
+            for (String none : new String[] {"-1", "+1", ".", ";", "a", "/1"}) {
+                Due.is("27: " + none + " behind " + place[0], faultOf(place[0] + none + place[1]), at);
+            }
+        }
+        // "A digit is 0 to 7."
+        for (int digit = 0; digit <= 9; digit++) {
+            Due.is("27: payer " + digit, faultOf("p" + digit + ">-*1d1."), digit <= 7 ? -6 : 1);
+            Due.is("27: getter " + digit, faultOf("p0>" + digit + "*1d1."), digit <= 7 ? -6 : 3);
+            Due.is("27: paid in to " + digit, faultOf("d" + digit + "+1"), digit <= 7 ? -6 : 1);
+        }
+    }
+
+    /** "if there is none and the text ends too early (also if it is empty), it is the length of the text" */
+    private static void promise27EarlyEndsAtEachPlace() {
+        String text = "n1;d7+10;p0>1*23d45/67!;s8";
+        // Where the text up to there is whole: behind the digits that end a number of n, d, s, and behind a rule.
+        String whole = " 2 7 8 23 26 ";
+        for (int end = 0; end <= text.length(); end++) {
+            int due = whole.contains(" " + end + " ") ? -6 : end;
+            Due.is("27: the end at " + end, faultOf(text.substring(0, end)), due);
+        }
+        // A fault before the end is told, and not the end.
+        Due.is("27: a fault, and too early", faultOf("d9;d0"), 1);
+        Due.is("27: two faults", faultOf("s1;x;y"), 3);
+    }
+
+    /** "the kind 0 to 3 (d, w, m, e) with the step, the day d behind "/" (of each kind; 1, if none stands there), the rule" */
+    private static void promise28AllKindsAndRules() {
+        for (int kind = 0; kind <= 3; kind++) {
+            StandingPayments x = new StandingPayments();
+            for (int i = 0; i < 8; i++) x.account(0, 0);
+            x.days(3);
+            for (int rule = 0; rule <= 4; rule++) {
+                String start = "p" + (rule + 3) + ">" + (rule == 4 ? "-" : String.valueOf(rule)) + "*" + (rule + 1);
+                String step = String.valueOf("dwme".charAt(kind)) + (rule + 8);
+                char sign = ".fbx!".charAt(rule);
+                Due.write(x, start + step + "/3" + rule % 2 + sign + ";" + start + step + sign);
+                Due.is("28: two acts", x.carryOut(), 2);
+                for (int i = 0; i < 2; i++) {
+                    int order = 2 * rule + i;
+                    int day = i == 0 ? 30 + rule % 2 : 1;
+                    int[] due = {rule + 3, rule == 4 ? -6 : rule, rule + 1, kind, rule + 8, day, 3, rule, 5, 0, 0};
+                    for (int what = 0; what < due.length; what++) {
+                        Due.is("28: " + start + step + sign + ", " + what, x.ofOrder(order, what), due[what]);
+                    }
+                }
+            }
+        }
+    }
+
+    private static void promise28OnTheLastDay() {
+        StandingPayments x = new StandingPayments();
+        x.account(0, 0);
+        Due.write(x, "n400;n400;n293;p0>-*5d1.;n1;p0>-*6d1.;d0+1;n1;d0+7");
+        Due.is("28: up to the day behind the last", x.carryOut(), 7);
+        Due.is("28: today", x.count(0), 1094);
+        Due.is("28: an order of the day before", x.ofOrder(0, 6), 1093);
+        Due.is("28: an order of the last day", x.ofOrder(1, 6), 1094);
+        Due.is("28: nothing behind the error", x.money(0, 1), 1);
     }
 
     private static void promise28CarryOut() {

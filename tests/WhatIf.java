@@ -163,6 +163,7 @@ public final class WhatIf {
         Due.is("22: no account", x.firstFailure(3), -1);
         Due.is("22: no account below", x.firstFailure(-1), -1);
         Due.is("22: no account far below", x.firstFailure(-7), -1);
+        for (int none = -2; none >= -5; none--) Due.is("22: no account " + none, x.firstFailure(none), -1);
         Due.is("22: ten weeks are paid", x.firstFailure(0), 7 + 7 * 10);
         Due.is("22: one is paid", x.firstFailure(1), 9);
         Due.is("22: no order of it", x.firstFailure(2), -6);
@@ -261,5 +262,23 @@ public final class WhatIf {
         // That of the 15 is missed on the 17, that of the 16 on the 18.
         Due.is("24: missed in these days only", x.ahead(0, 1, 1), 1);
         Due.is("24: and on the next", x.ahead(0, 2, 1), 2);
+        Due.is("24: two wait now", x.ofOrder(0, 14), 2);
+        Due.is("24: all that wait then, those of now too", x.ahead(0, 1, 3), 2);
+        x.stop(0);
+        Due.is("24: of a stopped order", x.ahead(0, 1, 3), 1);
+        Due.is("24: nothing waits behind two", x.ahead(0, 2, 3), 0);
+        Due.is("24: missed of a stopped order", x.ahead(0, 400, 1), 2);
+        // An order that is over has payments that wait, too.
+        StandingPayments y = new StandingPayments();
+        y.account(0, 0);
+        y.set(1, 0);
+        y.order(8, 30, 101, 0, 5, 2);
+        y.days(2);
+        Due.is("24: over", y.ofOrder(0, 10), 2);
+        y.deposit(0, 30);
+        Due.is("24: one is made", y.ahead(0, 1, 0), 1);
+        Due.is("24: one waits", y.ahead(0, 1, 3), 1);
+        Due.is("24: and is missed", y.ahead(0, 400, 1), 1);
+        Due.is("24: none is skipped", y.ahead(0, 400, 2), 0);
     }
 }

@@ -22,6 +22,7 @@ public final class WhatThereIs {
         int[] lengths = {31, 28, 31, 30, 31, 30, 31, 31, 30, 31, 30, 31};
         int day = 0;
         for (int month = 0; month < 36; month++) {
+            x = new StandingPayments();
             for (int of = 1; of <= lengths[month % 12]; of++) {
                 Due.is("13: weekday of " + day, x.ofDay(day, 0), day % 7);
                 Due.is("13: month of " + day, x.ofDay(day, 1), month);
@@ -33,6 +34,7 @@ public final class WhatThereIs {
             }
         }
         Due.is("13: so many days", day, 1095);
+        x = new StandingPayments();
         x.holiday(0, 1);
         x.holiday(4, 1);
         x.holiday(7, 1);
@@ -97,8 +99,9 @@ public final class WhatThereIs {
         Due.is("15: no account below", x.owedBits(-1), -1);
         Due.is("15: none", x.owedBits(0), 0);
         // Each sum of a month, from much less than a cent to thousands of cents.
-        int[] amounts = {1, 2, 3, 7, 99, 1000, 12345, 1000000};
-        int[] rates = {1, 120, 7, 1000, 333, 999, 500, 1000};
+        // With the last four it shows whether the product or the rate is divided, and by which rate.
+        int[] amounts = {1, 2, 3, 7, 99, 1000, 12345, 1000000, 5, 11, 65, 123457};
+        int[] rates = {1, 120, 7, 1000, 333, 999, 500, 1000, 120, 120, 120, 987};
         for (int i = 0; i < amounts.length; i++) {
             StandingPayments y = new StandingPayments();
             y.account(1000000, 0);
@@ -220,7 +223,7 @@ public final class WhatThereIs {
         y.account(0, 0);
         for (int i = 0; i < 16; i++) y.order(8, 1 + i, 101, 0, i % 10, 0);
         for (int n = 0; n < 200; n++) {
-            y.set(3, (5 + 7 * 400 - y.count(0)) % 7);
+            y.set(3, (5 + 7 * 400 - 2 * n) % 7);
             y.days(2);
         }
         Due.is("17: all of them wait", y.count(4), 400 * 16);
